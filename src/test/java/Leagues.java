@@ -46,4 +46,29 @@ final class Leagues {
             league.append(text.charAt(i));
         }
     }
+
+    /** All that can be asked of a league, but for its buffer and what is recorded or saved. */
+    static String describe(SeekLeague league) {
+        StringBuilder text = new StringBuilder();
+        for (int setting = 0; setting < 4; setting++) {
+            text.append(league.setting(setting)).append(' ');
+        }
+        for (int what = 0; what < 10; what++) {
+            text.append(league.total(what)).append(' ');
+        }
+        for (int player = 0; player < 8; player++) {
+            for (int part = 0; part < 7; part++) {
+                text.append(league.player(player, part)).append(' ');
+            }
+            text.append(league.ranked(player)).append(' ');
+        }
+        for (int spot = 0; spot < 16; spot++) {
+            for (int part = 0; part < 4; part++) {
+                text.append(league.spot(spot, part)).append(' ');
+            }
+        }
+        text.append(league.nextSeeker()).append(' ').append(league.inSight()).append(' ');
+        text.append(league.couldDash()).append(' ').append(league.bestSpot()).append(' ');
+        return text.append(league.fewestSteps()).toString();
+    }
 }

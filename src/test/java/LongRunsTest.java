@@ -57,8 +57,19 @@ public final class LongRunsTest {
         } else if (name.equals("undo") && draw(3) > 0) {
             make("total", draw(10), 0);
         } else {
-            make(name, draw(20) == 0 ? draw(40) - 20 : draw(9), draw(20) == 0 ? draw(40) - 20 : draw(16));
+            make(name, drawArgument(9), drawArgument(16));
         }
+    }
+
+    private int drawArgument(int bound) {
+        int kind = draw(40);
+        if (kind < 2) {
+            return draw(40) - 20;
+        }
+        if (kind < 3) {
+            return draw(2) == 0 ? Integer.MIN_VALUE + draw(2) : Integer.MAX_VALUE - draw(2);
+        }
+        return draw(bound);
     }
 
     private void makeFittingCall() {

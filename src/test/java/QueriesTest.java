@@ -15,6 +15,7 @@ public final class QueriesTest {
         rankedRefusals();
         nextSeekers();
         totals();
+        aFullLeague();
         totalRefusals();
         CHECK.finish("QueriesTest");
     }
@@ -172,6 +173,19 @@ public final class QueriesTest {
         for (int what = 0; what < hiding.length; what++) {
             CHECK.due("at hiding total(" + what + ")", x.total(what), hiding[what]);
         }
+    }
+
+    private static void aFullLeague() {
+        SeekLeague x = Leagues.seeking(1, 1, 2, 2, 3, 3, 8);
+        CHECK.due("total(0)", x.total(0), 8);
+        CHECK.due("total(7)", x.total(7), 7);
+        Leagues.walk(x, -1, 4);
+        CHECK.due("dash(7)", x.dash(7), 0);
+        CHECK.due("dash(1)", x.dash(1), 1);
+        CHECK.due("total(9)", x.total(9), 4);
+        CHECK.due("ranked(7)", x.ranked(7), 7);
+        CHECK.due("place of 7", x.player(7, 5), 7);
+        CHECK.due("nextSeeker()", x.nextSeeker(), 7);
     }
 
     private static void totalRefusals() {

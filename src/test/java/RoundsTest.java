@@ -25,6 +25,7 @@ public final class RoundsTest {
         cryRefusals();
         crySeesAsFarAsTheSight();
         lastFalseCryEndsTheRound();
+        thePlayerZeroHidesToo();
         aLoweredSettingEndsTheRoundWithTheNextFalseCry();
         dashAgainstTheSeeker();
         dashRefusals();
@@ -304,6 +305,22 @@ public final class RoundsTest {
         CHECK.due("it goes on", x.total(2), 2);
         CHECK.due("false cries of it", x.total(6), 1);
         CHECK.due("false cries of all rounds", x.player(0, 3), 3);
+    }
+
+    private static void thePlayerZeroHidesToo() {
+        SeekLeague x = Leagues.withPlayers(2);
+        x.start(1, 8);
+        x.hide(0, 4);
+        CHECK.due("hiders at 4", x.spot(4, 3), 1);
+        x.seek();
+        CHECK.due("steps", x.fewestSteps(), 3);
+        Leagues.walk(x, -1, 5);
+        CHECK.due("0 could dash", x.couldDash(), 1);
+        x.cry(0, 12);
+        x.cry(0, 12);
+        CHECK.due("a point", x.player(0, 0), 1);
+        CHECK.due("an escape", x.player(0, 4), 1);
+        CHECK.due("the seeker's points", x.player(1, 0), -2);
     }
 
     private static void aLoweredSettingEndsTheRoundWithTheNextFalseCry() {

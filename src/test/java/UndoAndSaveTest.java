@@ -8,7 +8,9 @@ public final class UndoAndSaveTest {
         undoGoesBackStepByStep();
         fiveStatesAreKept();
         everyUndoableCallIsUndone();
+        undoBringsBackAllThatCanBeAsked();
         refusedCallsRecordNothing();
+        refusedCallsSpoilNoRecord();
         callsWithoutADifferenceRecord();
         otherCallsRecordNothing();
         undoBringsBackRestedSpots();
@@ -87,6 +89,63 @@ public final class UndoAndSaveTest {
         CHECK.due("no escape", x.player(1, 4), 0);
         CHECK.due("no points", x.player(1, 0), 0);
         CHECK.due("four states are left", x.undo(), 3);
+    }
+
+    /** A round of all undoable calls; each is undone and made again. */
+    private static void undoBringsBackAllThatCanBeAsked() {
+        for (int depth = 1; depth <= 5; depth++) {
+            for (int last = depth; last <= 14; last++) {
+                SeekLeague undone = leagueAfter(last);
+                for (int i = 0; i < depth; i++) {
+                    undone.undo();
+                }
+                String before = Leagues.describe(leagueAfter(last - depth));
+                CHECK.holds("as ahead of call " + (last - depth + 1) + " after call " + last + ": " + before,
+                        before.equals(Leagues.describe(undone)));
+            }
+        }
+    }
+
+    private static SeekLeague leagueAfter(int calls) {
+        SeekLeague x = new SeekLeague();
+        x.join();
+        x.join();
+        x.set(1, 1);
+        x.save();
+        for (int call = 1; call <= calls; call++) {
+            switch (call) {
+                case 1: x.join(); break;
+                case 2: x.join(); break;
+                case 3: x.set(2, 1); break;
+                case 4: x.start(1, 8); break;
+                case 5: x.hide(0, 1); break;
+                case 6: x.hide(2, 2); break;
+                case 7: x.hide(3, 2); break;
+                case 8: x.seek(); break;
+                case 9: x.walk(1); break;
+                case 10: x.cry(2, 0); break;
+                case 11: x.cry(2, 2); break;
+                case 12: x.walk(1); break;
+                case 13: x.dash(0); break;
+                default: x.restore(); break;
+            }
+        }
+        return x;
+    }
+
+    private static void refusedCallsSpoilNoRecord() {
+        for (int calls = 1; calls <= 12; calls++) {
+            SeekLeague x = new SeekLeague();
+            for (int call = 1; call <= calls; call++) {
+                x.set(2, call % 10);
+                x.set(2, 10);
+                x.seek();
+            }
+            for (int back = 1; back <= Math.min(5, calls); back++) {
+                x.undo();
+                CHECK.due("back by " + back + " of " + calls, x.setting(2), back == calls ? 2 : (calls - back) % 10);
+            }
+        }
     }
 
     private static void refusedCallsRecordNothing() {
