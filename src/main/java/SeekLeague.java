@@ -760,7 +760,7 @@ public final class SeekLeague {
         private static final int SPOT = 4;
         private static final int COMMA_OR_END = 5;
 
-        private final char[] signs = new char[MAX_CHARACTERS];
+        private final int[] signs = new int[MAX_CHARACTERS];
         private int length = 0;
 
         MoveText() {
@@ -773,7 +773,7 @@ public final class SeekLeague {
             if (length >= MAX_CHARACTERS) {
                 return LIMIT;
             }
-            signs[length] = (char) code;
+            signs[length] = code;
             length++;
             return length;
         }
@@ -785,7 +785,7 @@ public final class SeekLeague {
         }
 
         /** The character, or a blank, which no text has, where there is none. */
-        char signAt(int index) {
+        int signAt(int index) {
             return index >= 0 && index < length ? signs[index] : ' ';
         }
 
@@ -805,7 +805,7 @@ public final class SeekLeague {
             return expected == COMMA_OR_END ? NONE : length;
         }
 
-        private static int expectedAfter(int expected, char sign) {
+        private static int expectedAfter(int expected, int sign) {
             switch (expected) {
                 case MOVE: return expectedAfterLetter(sign);
                 case PLAYER_AND_SPOT: return isPlayerDigit(sign) ? SPOT : ERROR;
@@ -816,7 +816,7 @@ public final class SeekLeague {
             }
         }
 
-        private static int expectedAfterLetter(char sign) {
+        private static int expectedAfterLetter(int sign) {
             switch (sign) {
                 case 'h':
                 case 'c':
@@ -832,11 +832,11 @@ public final class SeekLeague {
             }
         }
 
-        private static boolean isPlayerDigit(char sign) {
+        private static boolean isPlayerDigit(int sign) {
             return sign >= '0' && sign <= '7';
         }
 
-        private static boolean isSpotLetter(char sign) {
+        private static boolean isSpotLetter(int sign) {
             return sign >= 'a' && sign <= 'p';
         }
     }
