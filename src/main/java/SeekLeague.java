@@ -200,22 +200,17 @@ public final class SeekLeague {
             return BAD_TEXT;
         }
         past.draft(now);
-        int made = makeMoves();
-        text.empty();
-        return past.keep(made);
-    }
-
-    private int makeMoves() {
         int made = 0;
         for (int at = 0; at < MAX_CHARACTERS; at++) {
             if (text.startsMove(at)) {
                 if (makeMove(at) < 0) {
-                    return made;
+                    break;
                 }
                 made++;
             }
         }
-        return made;
+        text.empty();
+        return past.keep(made);
     }
 
     private int makeMove(int at) {
@@ -266,12 +261,11 @@ public final class SeekLeague {
         }
 
         static int distance(int one, int other) {
-            int steps = stepsUp(one, other);
-            return Math.min(steps, SPOTS - steps);
+            return Math.min(stepsUp(one, other), stepsUp(other, one));
         }
 
         static int fromBase(int spot) {
-            return distance(BASE, spot);
+            return Math.min(spot, stepsUp(spot, BASE));
         }
 
         static int stepsUp(int from, int to) {
@@ -387,8 +381,12 @@ public final class SeekLeague {
             return spot != Yard.BASE && Yard.fromBase(spot) <= breaths && !isRetired(spot);
         }
 
+        boolean isFull(int spot) {
+            return hiderCount(spot) >= MAX_HIDERS_AT_SPOT;
+        }
+
         boolean hasRoomToHide(int spot) {
-            return isHidingPlace(spot) && hiderCount(spot) < MAX_HIDERS_AT_SPOT;
+            return isHidingPlace(spot) && !isFull(spot);
         }
 
         boolean seekerSees(int spot) {
@@ -474,7 +472,7 @@ public final class SeekLeague {
             if (!state.isHidingPlace(spot)) {
                 return NOT_POSSIBLE;
             }
-            if (!state.hasRoomToHide(spot)) {
+            if (state.isFull(spot)) {
                 return LIMIT;
             }
             state.hidesAt[player] = spot;

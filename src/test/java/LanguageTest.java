@@ -1,5 +1,7 @@
 import java.nio.file.Files;
 import java.nio.file.Path;
+import java.util.Map;
+import java.util.TreeMap;
 import java.util.regex.Matcher;
 import java.util.regex.Pattern;
 
@@ -15,6 +17,7 @@ public final class LanguageTest {
     private static final int LONGEST_METHOD = 60;
     private static final int MOST_CLASSES = 12;
     private static final int MOST_PARAMETERS = 7;
+    private static final int DEEPEST_CALLS = 8;
 
     public static void main(String[] args) throws Exception {
         String source = Files.readString(Path.of("src/main/java/SeekLeague.java"));
@@ -24,6 +27,7 @@ public final class LanguageTest {
         signsArePlain(source);
         methodsAreShort(code);
         classesAreFewAndStatic(code);
+        callsAreNotDeep(code);
         CHECK.finish("LanguageTest");
     }
 
@@ -47,7 +51,8 @@ public final class LanguageTest {
     }
 
     private static void onlyListedImports(String code) {
-        CHECK.due("imports", count("\\bimport\\b", code), count("\\bimport java\\.util\\.(Arrays|ArrayList|List);", code));
+        CHECK.due("imports", count("\\bimport\\b", code),
+                count("\\bimport java\\.util\\.(Arrays|ArrayList|List);", code));
     }
 
     private static void signsArePlain(String source) {
@@ -66,6 +71,31 @@ public final class LanguageTest {
                 begin = -1;
             }
         }
+    }
+
+    /** The library's calls count too; methods of several classes that bear the same name count as one. */
+    private static void callsAreNotDeep(String code) {
+        Map<String, String> bodies = new TreeMap<>();
+        String pattern = "(?sm)^( +)(?:[\\w\\[\\]]+ )*(\\w+)\\([^()]*\\) \\{\n(.*?)\n\\1\\}\n";
+        Matcher method = Pattern.compile(pattern).matcher(code);
+        while (method.find()) {
+            bodies.merge(method.group(2), method.group(3), (one, other) -> one + other);
+        }
+        CHECK.holds("the methods are found", bodies.keySet().containsAll(Calls.NAMES));
+        for (String name : bodies.keySet()) {
+            int depth = depthOf(name, bodies, 1);
+            CHECK.holds(name + " calls " + depth + " deep", depth <= DEEPEST_CALLS);
+        }
+    }
+
+    private static int depthOf(String name, Map<String, String> bodies, int depth) {
+        int deepest = depth;
+        Matcher call = Pattern.compile("(\\w+)\\(").matcher(bodies.get(name));
+        while (call.find() && depth <= DEEPEST_CALLS) {
+            boolean isOwn = bodies.containsKey(call.group(1));
+            deepest = Math.max(deepest, isOwn ? depthOf(call.group(1), bodies, depth + 1) : depth + 1);
+        }
+        return deepest;
     }
 
     private static void classesAreFewAndStatic(String code) {

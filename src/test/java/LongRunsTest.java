@@ -3,11 +3,6 @@ public final class LongRunsTest {
     private static final Check CHECK = new Check();
     private static final int RUNS = 3000;
     private static final int CALLS = 512;
-    private static final String[] NAMES = {
-        "set", "setting", "join", "start", "hide", "seek", "walk", "cry", "dash", "player", "spot", "ranked",
-        "nextSeeker", "total", "inSight", "couldDash", "bestSpot", "fewestSteps", "append", "clearText",
-        "errorPosition", "play", "undo", "save", "restore",
-    };
     private static final String[] MOVES = {"h", "b", "+", "-", "c", "d"};
 
     private long seed;
@@ -51,7 +46,7 @@ public final class LongRunsTest {
     }
 
     private void makeAnyCall() {
-        String name = NAMES[draw(NAMES.length)];
+        String name = Calls.NAMES.get(draw(Calls.NAMES.size()));
         if (name.equals("append")) {
             make(name, 30 + draw(100), 0);
         } else if (name.equals("undo") && draw(3) > 0) {
@@ -105,7 +100,7 @@ public final class LongRunsTest {
         } else if (kind < 8) {
             make("dash", draw(8), 0);
         } else {
-            make(NAMES[14 + draw(4)], 0, 0);
+            make(Calls.PREDICTIONS.get(draw(4)), 0, 0);
         }
     }
 
@@ -153,40 +148,9 @@ public final class LongRunsTest {
         }
         made++;
         calls.append(name).append('(').append(a).append(", ").append(b).append(") ");
-        int got = answer(name, a, b);
+        int got = Calls.make(league, name, a, b);
         int want = model.call(name, a, b);
         isWrong = got != want;
         CHECK.due(isWrong ? calls.toString() : name, got, want);
-    }
-
-    private int answer(String name, int a, int b) {
-        switch (name) {
-            case "set": return league.set(a, b);
-            case "setting": return league.setting(a);
-            case "join": return league.join();
-            case "start": return league.start(a, b);
-            case "hide": return league.hide(a, b);
-            case "seek": return league.seek();
-            case "walk": return league.walk(a);
-            case "cry": return league.cry(a, b);
-            case "dash": return league.dash(a);
-            case "player": return league.player(a, b);
-            case "spot": return league.spot(a, b);
-            case "ranked": return league.ranked(a);
-            case "nextSeeker": return league.nextSeeker();
-            case "total": return league.total(a);
-            case "inSight": return league.inSight();
-            case "couldDash": return league.couldDash();
-            case "bestSpot": return league.bestSpot();
-            case "fewestSteps": return league.fewestSteps();
-            case "append": return league.append(a);
-            case "clearText": return league.clearText();
-            case "errorPosition": return league.errorPosition();
-            case "play": return league.play();
-            case "undo": return league.undo();
-            case "save": return league.save();
-            case "restore": return league.restore();
-            default: throw new IllegalArgumentException(name);
-        }
     }
 }

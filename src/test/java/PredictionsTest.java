@@ -1,122 +1,29 @@
-/** Promises 16 to 19: inSight, couldDash, bestSpot, fewestSteps. */
+/** What is seen from every spot, and the fewest steps to all whom a search over all walks knows. */
 public final class PredictionsTest {
     private static final Check CHECK = new Check();
     private static final int NOT_POSSIBLE = SeekLeague.NOT_POSSIBLE;
-    private static final int NONE = SeekLeague.NONE;
 
     public static void main(String[] args) {
-        predictionsHaveTheirTime();
-        spotsInSight();
-        playersWhoCouldDash();
-        bestSpotByDistance();
-        bestSpotByFinds();
-        bestSpotByHiders();
-        noBestSpot();
+        crySeesAsFarAsTheSight();
         bestSpotWhenAllAreHidden();
-        fewestStepsOneWay();
         fewestStepsWithATurn();
         fewestStepsOfThoseStillHidden();
         fewestStepsAgainstAllWalks();
         CHECK.finish("PredictionsTest");
     }
 
-    private static void predictionsHaveTheirTime() {
-        SeekLeague x = Leagues.withPlayers(2);
-        CHECK.due("inSight() without a round", x.inSight(), NOT_POSSIBLE);
-        CHECK.due("couldDash() without a round", x.couldDash(), NOT_POSSIBLE);
-        CHECK.due("bestSpot() without a round", x.bestSpot(), NOT_POSSIBLE);
-        CHECK.due("fewestSteps() without a round", x.fewestSteps(), NOT_POSSIBLE);
-        x.start(0, 8);
-        x.hide(1, 8);
-        CHECK.due("inSight() at hiding", x.inSight(), NOT_POSSIBLE);
-        CHECK.due("couldDash() at hiding", x.couldDash(), NOT_POSSIBLE);
-        CHECK.due("fewestSteps() at hiding", x.fewestSteps(), NOT_POSSIBLE);
-        x.seek();
-        CHECK.due("bestSpot() at seeking", x.bestSpot(), NOT_POSSIBLE);
-        CHECK.due("predictions record nothing", x.undo(), 4);
-    }
-
-    private static void spotsInSight() {
-        SeekLeague x = Leagues.seeking(8);
-        CHECK.due("at the base, sight 1", x.inSight(), 0b1000000000000011);
-        x.set(0, 0);
-        CHECK.due("at the base, sight 0", x.inSight(), 0b1);
-        x.set(0, 3);
-        CHECK.due("at the base, sight 3", x.inSight(), 0b1110000000001111);
-        Leagues.walk(x, 1, 8);
-        CHECK.due("at 8, sight 3", x.inSight(), 0b0000111111100000);
-        x.set(0, 0);
-        CHECK.due("at 8, sight 0", x.inSight(), 0b100000000);
-        Leagues.walk(x, 1, 6);
-        x.set(0, 2);
-        CHECK.due("at 14, sight 2", x.inSight(), 0b1111000000000001);
-    }
-
-    private static void playersWhoCouldDash() {
-        SeekLeague x = Leagues.seeking(1, 2, 14, 8, NONE);
-        CHECK.due("at the base", x.couldDash(), 0);
-        x.walk(-1);
-        CHECK.due("one away", x.couldDash(), 0);
-        x.walk(-1);
-        CHECK.due("two away", x.couldDash(), 0b10);
-        x.walk(-1);
-        CHECK.due("three away", x.couldDash(), 0b1110);
-        x.dash(1);
-        CHECK.due("without the first", x.couldDash(), 0b1100);
-        Leagues.walk(x, -1, 5);
-        CHECK.due("eight away", x.couldDash(), 0b1100);
-    }
-
-    private static void bestSpotByDistance() {
-        int[] best = {1, 2, 3, 4, 5, 6, 7, 8};
-        for (int breaths = 1; breaths <= 8; breaths++) {
-            SeekLeague x = Leagues.withPlayers(2);
-            x.start(0, breaths);
-            CHECK.due("bestSpot() with " + breaths, x.bestSpot(), best[breaths - 1]);
+    private static void crySeesAsFarAsTheSight() {
+        for (int sight = 0; sight <= 3; sight++) {
+            for (int spot = 0; spot < 16; spot++) {
+                SeekLeague x = Leagues.seeking(8);
+                x.set(0, sight);
+                x.walk(-1);
+                int steps = Math.abs(15 - spot);
+                boolean isSeen = Math.min(steps, 16 - steps) <= sight;
+                CHECK.due("from 15, sight " + sight + ": cry(1, " + spot + ")",
+                        x.cry(1, spot), isSeen ? 0 : NOT_POSSIBLE);
+            }
         }
-    }
-
-    private static void bestSpotByFinds() {
-        SeekLeague x = Leagues.seeking(1, 15, 8);
-        x.cry(1, 1);
-        x.dash(2);
-        x.dash(3);
-        x.start(0, 1);
-        CHECK.due("fewer finds", x.bestSpot(), 15);
-        x.hide(1, 15);
-        CHECK.due("finds ahead of hiders", x.bestSpot(), 15);
-        x.hide(2, 15);
-        CHECK.due("15 is full", x.bestSpot(), 1);
-    }
-
-    private static void bestSpotByHiders() {
-        SeekLeague x = Leagues.withPlayers(5);
-        x.start(0, 3);
-        x.hide(1, 3);
-        CHECK.due("fewer hiders", x.bestSpot(), 13);
-        x.hide(2, 13);
-        CHECK.due("the lower number", x.bestSpot(), 3);
-        x.hide(3, 3);
-        CHECK.due("a full one is out", x.bestSpot(), 13);
-        x.hide(4, 13);
-        CHECK.due("less far", x.bestSpot(), 2);
-    }
-
-    private static void noBestSpot() {
-        SeekLeague x = Leagues.withPlayers(6);
-        x.start(0, 1);
-        x.hide(1, 1);
-        x.hide(2, 1);
-        x.hide(3, 15);
-        CHECK.due("one is left", x.bestSpot(), 15);
-        x.hide(4, 15);
-        CHECK.due("none is left", x.bestSpot(), NONE);
-        SeekLeague y = Leagues.seeking(1, 15);
-        y.set(1, 1);
-        y.cry(1, 1);
-        y.cry(2, 15);
-        CHECK.due("all retired", y.start(0, 1), 0);
-        CHECK.due("none is open", y.bestSpot(), NONE);
     }
 
     /** What somebody could do is read as a question about the spot, as start() counts it. */
@@ -125,21 +32,6 @@ public final class PredictionsTest {
         x.start(0, 2);
         x.hide(1, 2);
         CHECK.due("all are hidden", x.bestSpot(), 14);
-    }
-
-    private static void fewestStepsOneWay() {
-        CHECK.due("in sight", Leagues.seeking(1, 15).fewestSteps(), 0);
-        CHECK.due("one up", Leagues.seeking(2).fewestSteps(), 1);
-        CHECK.due("one down", Leagues.seeking(14).fewestSteps(), 1);
-        CHECK.due("the other side", Leagues.seeking(8).fewestSteps(), 7);
-        CHECK.due("9 is nearer downward", Leagues.seeking(9).fewestSteps(), 6);
-        SeekLeague x = Leagues.seeking(8);
-        x.set(0, 3);
-        CHECK.due("with sight 3", x.fewestSteps(), 5);
-        x.set(0, 0);
-        CHECK.due("with sight 0", x.fewestSteps(), 8);
-        Leagues.walk(x, -1, 3);
-        CHECK.due("after three steps", x.fewestSteps(), 5);
     }
 
     private static void fewestStepsWithATurn() {

@@ -1,94 +1,15 @@
-/** Promises 24 to 26: undo, save, restore. */
+/** All that can be asked of a league, ahead of calls and after they are taken back. */
 public final class UndoAndSaveTest {
     private static final Check CHECK = new Check();
     private static final int NOT_POSSIBLE = SeekLeague.NOT_POSSIBLE;
-    private static final int NONE = SeekLeague.NONE;
 
     public static void main(String[] args) {
-        undoGoesBackStepByStep();
-        fiveStatesAreKept();
-        everyUndoableCallIsUndone();
         undoBringsBackAllThatCanBeAsked();
-        refusedCallsRecordNothing();
         refusedCallsSpoilNoRecord();
-        callsWithoutADifferenceRecord();
-        otherCallsRecordNothing();
         undoBringsBackRestedSpots();
         saveAndRestore();
-        restoreIsUndoable();
-        undoKeepsTheSavedState();
         theSavedStateIsACopy();
         CHECK.finish("UndoAndSaveTest");
-    }
-
-    private static void undoGoesBackStepByStep() {
-        SeekLeague x = new SeekLeague();
-        CHECK.due("undo() of nothing", x.undo(), NOT_POSSIBLE);
-        x.join();
-        x.join();
-        x.set(0, 3);
-        CHECK.due("undo()", x.undo(), 2);
-        CHECK.due("the sight", x.setting(0), 1);
-        CHECK.due("undo()", x.undo(), 1);
-        CHECK.due("players", x.total(0), 1);
-        CHECK.due("join()", x.join(), 1);
-        CHECK.due("undo()", x.undo(), 1);
-        CHECK.due("undo()", x.undo(), 0);
-        CHECK.due("players", x.total(0), 0);
-        CHECK.due("undo() of nothing", x.undo(), NOT_POSSIBLE);
-    }
-
-    private static void fiveStatesAreKept() {
-        for (int calls = 5; calls <= 20; calls++) {
-            SeekLeague x = new SeekLeague();
-            for (int call = 0; call < calls; call++) {
-                x.set(1, call % 9 + 1);
-            }
-            for (int left = 4; left >= 0; left--) {
-                CHECK.due("undo()", x.undo(), left);
-                int last = calls - 6 + left;
-                CHECK.due("after " + calls + " calls, " + left + " left", x.setting(1), last < 0 ? 2 : last % 9 + 1);
-            }
-            CHECK.due("undo() of nothing", x.undo(), NOT_POSSIBLE);
-        }
-    }
-
-    private static void everyUndoableCallIsUndone() {
-        SeekLeague x = Leagues.withPlayers(3);
-        x.start(1, 7);
-        CHECK.due("undo() of start", x.undo(), 3);
-        CHECK.due("no round", x.total(2), 0);
-        CHECK.due("no breaths", x.total(4), NONE);
-        CHECK.due("no turn", x.player(1, 1), 0);
-        x.start(0, 8);
-        x.hide(1, 1);
-        x.hide(2, 2);
-        x.undo();
-        CHECK.due("one hides", x.total(7), 1);
-        x.hide(2, 8);
-        x.seek();
-        x.undo();
-        CHECK.due("hiding", x.total(2), 1);
-        x.seek();
-        x.walk(1);
-        x.undo();
-        CHECK.due("at the base", x.total(5), 0);
-        x.cry(1, 1);
-        x.undo();
-        CHECK.due("no points", x.player(0, 0), 0);
-        CHECK.due("no player found", x.player(0, 2), 0);
-        CHECK.due("no find", x.spot(1, 1), 0);
-        CHECK.due("hidden again", x.player(1, 6), 1);
-        x.cry(1, 0);
-        x.undo();
-        CHECK.due("no false cry", x.player(0, 3), 0);
-        CHECK.due("no false cry of the round", x.total(6), 0);
-        Leagues.walk(x, 1, 2);
-        x.dash(1);
-        x.undo();
-        CHECK.due("no escape", x.player(1, 4), 0);
-        CHECK.due("no points", x.player(1, 0), 0);
-        CHECK.due("four states are left", x.undo(), 3);
     }
 
     /** A round of all undoable calls; each is undone and made again. */
@@ -148,61 +69,6 @@ public final class UndoAndSaveTest {
         }
     }
 
-    private static void refusedCallsRecordNothing() {
-        SeekLeague x = Leagues.withPlayers(2);
-        x.set(0, 9);
-        x.start(2, 1);
-        x.hide(0, 1);
-        x.seek();
-        x.walk(2);
-        x.cry(0, 0);
-        x.dash(0);
-        x.play();
-        x.restore();
-        x.append(0);
-        CHECK.due("undo()", x.undo(), 1);
-        CHECK.due("players", x.total(0), 1);
-        SeekLeague y = Leagues.withPlayers(8);
-        y.join();
-        CHECK.due("undo()", y.undo(), 4);
-        CHECK.due("players", y.total(0), 7);
-    }
-
-    private static void callsWithoutADifferenceRecord() {
-        SeekLeague x = Leagues.withPlayers(2);
-        x.set(0, 1);
-        CHECK.due("the same value", x.undo(), 2);
-        x.start(0, 8);
-        x.hide(1, 1);
-        x.seek();
-        x.walk(0);
-        x.walk(0);
-        CHECK.due("to stay", x.undo(), 4);
-        CHECK.due("to stay", x.undo(), 3);
-        CHECK.due("seeking still", x.total(2), 2);
-    }
-
-    private static void otherCallsRecordNothing() {
-        SeekLeague x = Leagues.withPlayers(1);
-        x.setting(0);
-        x.player(0, 0);
-        x.spot(0, 0);
-        x.ranked(0);
-        x.nextSeeker();
-        x.total(0);
-        x.inSight();
-        x.couldDash();
-        x.bestSpot();
-        x.fewestSteps();
-        x.append('b');
-        x.errorPosition();
-        x.clearText();
-        x.save();
-        CHECK.due("undo()", x.undo(), 0);
-        CHECK.due("no player", x.total(0), 0);
-        CHECK.due("undo() records nothing", x.undo(), NOT_POSSIBLE);
-    }
-
     private static void undoBringsBackRestedSpots() {
         SeekLeague x = Leagues.seeking(1);
         x.set(1, 1);
@@ -253,26 +119,6 @@ public final class UndoAndSaveTest {
         }
         CHECK.due("hidden", x.player(0, 6), 3);
         CHECK.due("false cries", x.player(1, 3), 1);
-    }
-
-    private static void restoreIsUndoable() {
-        SeekLeague x = Leagues.withPlayers(2);
-        x.save();
-        x.join();
-        x.restore();
-        CHECK.due("undo() of restore", x.undo(), 3);
-        CHECK.due("players", x.total(0), 3);
-    }
-
-    private static void undoKeepsTheSavedState() {
-        SeekLeague x = Leagues.withPlayers(2);
-        x.save();
-        x.undo();
-        x.undo();
-        CHECK.due("no players", x.total(0), 0);
-        CHECK.due("restore()", x.restore(), 2);
-        x.undo();
-        CHECK.due("restore() after an undo", x.restore(), 2);
     }
 
     private static void theSavedStateIsACopy() {
