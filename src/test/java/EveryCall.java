@@ -44,6 +44,7 @@ final class EveryCall {
         s.of("Terms", "Undo. The methods that are marked \"Undoable.\" record the state that was current ahead of the "
                 + "call, if they return no error code (also if the call makes no difference).");
         forEveryCall((state, name, a, b) -> checkRecord(s, state, name, a, b));
+        forEveryCall((state, name, a, b) -> checkNoRecord(s, state, name, a, b));
         s.of("Terms", "Ahead of the calls `inSight`, `couldDash`, `bestSpot`, `fewestSteps` the interface says: ---- "
                 + "predictions; they change nothing.");
         forEveryCall((state, name, a, b) -> checkQuestion(s, state, name, a, b));
@@ -181,6 +182,14 @@ final class EveryCall {
         }
     }
 
+    private static void checkNoRecord(Sentences s, int state, String name, int a, int b) {
+        if (!UNDOABLE.contains(name) && !name.equals("undo")) {
+            SeekLeague x = leagueIn(state);
+            Calls.make(x, name, a, b);
+            s.holds(said(state, name, a, b) + " records nothing", sameRecords(x, leagueIn(state)));
+        }
+    }
+
     private static void checkQuestion(Sentences s, int state, String name, int a, int b) {
         if (UNDOABLE.contains(name) || BESIDE_THE_STATE.contains(name)) {
             return;
@@ -190,8 +199,6 @@ final class EveryCall {
         int answer = Calls.make(x, name, a, b);
         s.due(call + " once more", Calls.make(x, name, a, b), answer);
         s.holds(call, Leagues.describe(x).equals(Leagues.describe(leagueIn(state))));
-        SeekLeague y = leagueIn(state);
-        Calls.make(y, name, a, b);
-        s.holds(call + " records nothing", sameRecords(y, leagueIn(state)));
+        s.holds(call + " and the buffer", sameBuffer(x, leagueIn(state)));
     }
 }

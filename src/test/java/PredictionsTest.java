@@ -5,7 +5,6 @@ public final class PredictionsTest {
 
     public static void main(String[] args) {
         crySeesAsFarAsTheSight();
-        bestSpotWhenAllAreHidden();
         fewestStepsWithATurn();
         fewestStepsOfThoseStillHidden();
         fewestStepsAgainstAllWalks();
@@ -24,14 +23,6 @@ public final class PredictionsTest {
                         x.cry(1, spot), isSeen ? 0 : NOT_POSSIBLE);
             }
         }
-    }
-
-    /** What somebody could do is read as a question about the spot, as start() counts it. */
-    private static void bestSpotWhenAllAreHidden() {
-        SeekLeague x = Leagues.withPlayers(2);
-        x.start(0, 2);
-        x.hide(1, 2);
-        CHECK.due("all are hidden", x.bestSpot(), 14);
     }
 
     private static void fewestStepsWithATurn() {

@@ -69,6 +69,8 @@ final class SentencesOfPlayersAndRounds {
         busy.save();
         s.holds("one league does not change another",
                 Leagues.describe(x).equals(Leagues.describe(new SeekLeague())));
+        Leagues.write(new SeekLeague(), "x");
+        s.due("nor its buffer", busy.errorPosition(), NONE);
         s.due("an empty buffer", new SeekLeague().clearText(), 0);
         s.due("no recorded state", new SeekLeague().undo(), NOT_POSSIBLE);
         s.due("no saved state", new SeekLeague().restore(), NOT_POSSIBLE);

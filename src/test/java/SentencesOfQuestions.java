@@ -355,11 +355,14 @@ final class SentencesOfQuestions {
         s.due("one at 8", full.bestSpot(), 8);
         full.hide(2, 8);
         s.due("two at 8", full.bestSpot(), 7);
-        SeekLeague retired = Leagues.seeking(1);
+        SeekLeague retired = Leagues.seeking(8);
         retired.set(1, 1);
-        retired.cry(1, 1);
-        retired.start(0, 1);
-        s.due("1 is retired", retired.bestSpot(), 15);
+        Leagues.walk(retired, 1, 7);
+        retired.cry(1, 8);
+        retired.start(0, 8);
+        s.due("8 is retired", retired.bestSpot(), 7);
+        retired.hide(1, 2);
+        s.due("all are hidden: what somebody could do is asked of the spot alone", retired.bestSpot(), 7);
         s.of(BEST, "then with the fewest finds,");
         SeekLeague found = Leagues.seeking(1, 8);
         found.cry(1, 1);
