@@ -1,11 +1,16 @@
+import java.lang.reflect.Field;
+import java.lang.reflect.Method;
+import java.lang.reflect.Modifier;
 import java.nio.file.Files;
 import java.nio.file.Path;
 import java.util.Map;
+import java.util.Set;
 import java.util.TreeMap;
+import java.util.TreeSet;
 import java.util.regex.Matcher;
 import java.util.regex.Pattern;
 
-/** Those rules of ../shared/LANGUAGE.md that can be seen from the program's words. */
+/** Those rules of ../shared/LANGUAGE.md that can be seen from the program's words and members. */
 public final class LanguageTest {
     private static final Check CHECK = new Check();
     private static final String[] FORBIDDEN = {
@@ -18,6 +23,9 @@ public final class LanguageTest {
     private static final int MOST_CLASSES = 12;
     private static final int MOST_PARAMETERS = 7;
     private static final int DEEPEST_CALLS = 8;
+    private static final int MOST_FIELDS = 20;
+    private static final Set<String> LIBRARY_CALLS = Set.of("Math.min", "Math.max", "Math.floorMod",
+            "Integer.bitCount", "System.arraycopy", "Arrays.fill");
 
     public static void main(String[] args) throws Exception {
         String source = Files.readString(Path.of("src/main/java/SeekLeague.java"));
@@ -28,6 +36,10 @@ public final class LanguageTest {
         methodsAreShort(code);
         classesAreFewAndStatic(code);
         callsAreNotDeep(code);
+        onlyListedLibraryCalls(code);
+        objectsAreMadeAtTheBeginning(code);
+        loopsHaveCounters(code);
+        membersKeepTheRules();
         CHECK.finish("LanguageTest");
     }
 
@@ -96,6 +108,55 @@ public final class LanguageTest {
             deepest = Math.max(deepest, isOwn ? depthOf(call.group(1), bodies, depth + 1) : depth + 1);
         }
         return deepest;
+    }
+
+    private static void onlyListedLibraryCalls(String code) {
+        Set<String> own = new TreeSet<>();
+        for (Class<?> inside : SeekLeague.class.getDeclaredClasses()) {
+            own.add(inside.getSimpleName());
+        }
+        Matcher call = Pattern.compile("\\b([A-Z]\\w*)\\.(\\w+)\\(").matcher(code);
+        while (call.find()) {
+            String name = call.group(1) + "." + call.group(2);
+            CHECK.holds(name + " is listed", own.contains(call.group(1)) || LIBRARY_CALLS.contains(name));
+        }
+    }
+
+    /** All calls of a run share one room, so what a league needs is made with it. */
+    private static void objectsAreMadeAtTheBeginning(String code) {
+        Matcher method = Pattern.compile("(?sm)^( +)(?:[\\w\\[\\]]+ )+\\w+\\([^()]*\\) \\{\n(.*?)\n\\1\\}\n")
+                .matcher(code);
+        while (method.find()) {
+            if (!method.group().matches("(?s) +(private |public )?[A-Z]\\w+\\(.*")) {
+                CHECK.due("objects made in " + method.group().split("\n")[0].trim(),
+                        count("\\bnew\\b|\\.clone\\(", method.group()), 0);
+            }
+        }
+    }
+
+    private static void loopsHaveCounters(String code) {
+        CHECK.due("other loops than those of a counter", count("\\b(while|do)\\b|\\bfor \\([^;]*\\)", code), 0);
+    }
+
+    private static void membersKeepTheRules() {
+        checkMembers(SeekLeague.class);
+        for (Class<?> inside : SeekLeague.class.getDeclaredClasses()) {
+            checkMembers(inside);
+            for (Method method : inside.getDeclaredMethods()) {
+                CHECK.holds(method.getName() + " is no name of the face", !Calls.NAMES.contains(method.getName()));
+            }
+        }
+    }
+
+    private static void checkMembers(Class<?> owner) {
+        int fields = 0;
+        for (Field field : owner.getDeclaredFields()) {
+            int modifiers = field.getModifiers();
+            CHECK.holds(field.getName() + " is final, if static",
+                    !Modifier.isStatic(modifiers) || Modifier.isFinal(modifiers));
+            fields += Modifier.isStatic(modifiers) ? 0 : 1;
+        }
+        CHECK.holds("few fields in " + owner.getSimpleName(), fields <= MOST_FIELDS);
     }
 
     private static void classesAreFewAndStatic(String code) {
